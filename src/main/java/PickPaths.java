@@ -8,6 +8,8 @@ public final class PickPaths {
     private static final int MOST_PLACES = MOST_BLOCKS * BLOCK_PLACES;
     private static final int BLOCK_DEPTH = 11;
     private static final int AISLE_WIDTH = 3;
+    /** More metres than any walk has. */
+    private static final int ENDLESS = 1000000;
 
     private static final int MOST_STOPS = 10;
     private static final int MOST_PIECES = 100;
@@ -256,7 +258,7 @@ public final class PickPaths {
             if (aisle == otherAisle) {
                 return Math.abs(depth - otherDepth);
             }
-            int least = Integer.MAX_VALUE;
+            int least = ENDLESS;
             for (int cross = 0; cross <= blocks; cross++) {
                 int crossDepth = BLOCK_DEPTH * cross;
                 least = Math.min(least, Math.abs(depth - crossDepth) + Math.abs(otherDepth - crossDepth));
@@ -308,10 +310,6 @@ public final class PickPaths {
 
         boolean isWalked(int stop) {
             return state[stop] == OPEN && pieces[stop] > 0 && !floor.shut[aisle[stop]];
-        }
-
-        boolean isWalkedIn(int stop, int wantedAisle) {
-            return aisle[stop] == wantedAisle && isWalked(stop);
         }
 
         int walkedOnes() {
@@ -388,7 +386,8 @@ public final class PickPaths {
         private final Stops stops;
         private final LeastOrder leastOrder;
         private final int[] keys = new int[MOST_STOPS];
-        private final boolean[] taken = new boolean[MOST_STOPS];
+        // The stops that are walked; nearest takes them out one by one.
+        private final boolean[] waiting = new boolean[MOST_STOPS];
 
         Planner(Floor floor, Stops stops) {
             this.floor = floor;
@@ -398,6 +397,9 @@ public final class PickPaths {
 
         void lay(int kind, int here, Route route) {
             route.clear();
+            for (int stop = 0; stop < stops.size; stop++) {
+                waiting[stop] = stops.isWalked(stop);
+            }
             if (kind == LEAST) {
                 leastOrder.lay(here, route);
             } else if (kind == NEAREST) {
@@ -408,14 +410,11 @@ public final class PickPaths {
         }
 
         private void layNearest(int here, Route route) {
-            for (int stop = 0; stop < stops.size; stop++) {
-                taken[stop] = !stops.isWalked(stop);
-            }
             int at = here;
             int rounds = stops.walkedOnes();
             for (int round = 0; round < rounds; round++) {
                 int next = nearestFrom(at);
-                taken[next] = true;
+                waiting[next] = false;
                 route.append(next);
                 at = next;
             }
@@ -423,9 +422,9 @@ public final class PickPaths {
 
         private int nearestFrom(int at) {
             int nearest = 0;
-            int least = Integer.MAX_VALUE;
+            int least = ENDLESS;
             for (int stop = 0; stop < stops.size; stop++) {
-                if (!taken[stop] && stops.way(at, stop) < least) {
+                if (waiting[stop] && stops.way(at, stop) < least) {
                     least = stops.way(at, stop);
                     nearest = stop;
                 }
@@ -436,7 +435,7 @@ public final class PickPaths {
         /** Stops come in by number and stay behind equal keys: so those of one place are by number. */
         private void layByKeys(int kind, Route route) {
             for (int stop = 0; stop < stops.size; stop++) {
-                if (stops.isWalked(stop)) {
+                if (waiting[stop]) {
                     keys[stop] = keyOf(kind, stop);
                     int at = route.size;
                     while (at > 0 && keys[route.row[at - 1]] > keys[stop]) {
@@ -508,7 +507,7 @@ public final class PickPaths {
 
         private boolean isUsed(int aisle) {
             for (int stop = 0; stop < stops.size; stop++) {
-                if (stops.isWalkedIn(stop, aisle)) {
+                if (waiting[stop] && stops.aisle[stop] == aisle) {
                     return true;
                 }
             }
@@ -535,7 +534,7 @@ public final class PickPaths {
         private int nextDepth(int aisle, int depth) {
             int next = floor.backDepth();
             for (int stop = 0; stop < stops.size; stop++) {
-                if (stops.isWalkedIn(stop, aisle) && stops.depth[stop] > depth) {
+                if (waiting[stop] && stops.aisle[stop] == aisle && stops.depth[stop] > depth) {
                     next = Math.min(next, stops.depth[stop]);
                 }
             }
@@ -595,7 +594,7 @@ public final class PickPaths {
         /** Of equal ones the lowest member, so that the order is the first one by numbers. */
         private int bestNext(int at, int set) {
             int best = 0;
-            int least = Integer.MAX_VALUE;
+            int least = ENDLESS;
             for (int member = 0; member < size; member++) {
                 if (isIn(set, member)) {
                     int length = lengthBy(at, set, member);
