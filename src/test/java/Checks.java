@@ -7,6 +7,12 @@ final class Checks {
 
     private int made = 0;
     private int wrong = 0;
+    private String sentence = "";
+
+    /** The checks that follow are of this sentence of the document. */
+    void under(String words) {
+        sentence = "\"" + words + "\": ";
+    }
 
     void same(String what, long got, long want) {
         made++;
@@ -40,7 +46,7 @@ final class Checks {
     private void tell(String text) {
         wrong++;
         if (wrong <= 50) {
-            System.out.println(text);
+            System.out.println(sentence + text);
         }
     }
 

@@ -1,41 +1,5 @@
-import java.util.NoSuchElementException;
-
 /** Each promise of the document by its number; the answers were worked out by hand. */
-public final class PromisesTest {
-    private static final Class<NoSuchElementException> NO_SUCH = NoSuchElementException.class;
-    private static final Class<IllegalArgumentException> ARGUMENT = IllegalArgumentException.class;
-    private static final Class<IllegalStateException> STATE = IllegalStateException.class;
-    private static final Class<UnsupportedOperationException> NO_ROOM = UnsupportedOperationException.class;
-    private static final Class<ArrayIndexOutOfBoundsException> INDEX = ArrayIndexOutOfBoundsException.class;
-    private static final Class<ArithmeticException> ARITHMETIC = ArithmeticException.class;
-    private static final int MAX = Integer.MAX_VALUE;
-    private static final int MIN = Integer.MIN_VALUE;
-
-    private final Checks checks = new Checks();
-
-    /** A floor with stops, each told as aisle, place, pieces. */
-    private static PickPaths floor(int aisles, int blocks, int... stops) {
-        PickPaths x = new PickPaths(aisles, blocks);
-        for (int i = 0; i + 2 < stops.length; i += 3) {
-            x.stop(stops[i], stops[i + 1], stops[i + 2]);
-        }
-        return x;
-    }
-
-    private static String order(PickPaths x) {
-        StringBuilder text = new StringBuilder();
-        for (int i = 0; i < x.count(2); i++) {
-            text.append(i == 0 ? "" : " ").append(x.step(i));
-        }
-        return text.toString();
-    }
-
-    private void laysOut(String what, PickPaths x, int kind, String order, int length) {
-        checks.same(what + ": length", x.walk(kind), length);
-        checks.same(what + ": order", order(x), order);
-        checks.same(what + ": left", x.left(), length);
-    }
-
+public final class PromisesTest extends Cases {
     private void promise1() {
         int[][] sizes = {{0, 0, 1, 1}, {-5, -1, 1, 1}, {1, 1, 1, 1}, {8, 3, 8, 3}, {9, 4, 8, 3},
             {MAX, MIN, 8, 1}, {MIN, MAX, 1, 3}, {5, 2, 5, 2}};
@@ -405,23 +369,10 @@ public final class PromisesTest {
 
     public static void main(String[] args) {
         PromisesTest test = new PromisesTest();
-        test.promise1();
-        test.promise2();
-        test.promise3();
-        test.promise4ByAisles();
-        test.promise4ByWays();
-        test.promise4Refusals();
-        test.promise5();
-        test.promise6();
-        test.promise7();
-        test.promise8();
-        test.promise9();
-        test.promise10();
-        test.promise11();
-        test.promise12();
-        test.promise13();
-        test.promise14();
-        test.promise15();
-        test.checks.finish();
+        test.runAll(
+            test::promise1, test::promise2, test::promise3, test::promise4ByAisles, test::promise4ByWays,
+            test::promise4Refusals, test::promise5, test::promise6, test::promise7, test::promise8,
+            test::promise9, test::promise10, test::promise11, test::promise12, test::promise13, test::promise14,
+            test::promise15);
     }
 }
