@@ -211,11 +211,25 @@ public final class WalkEdgesTest extends Cases {
         x.closed(3, false);
         x.closed(2, true);
         laysOut("nothing is between", x, LARGEST_GAP, "1 2 5", 6 + 7 + 12 + 15);
-        x.closed(2, false);
-        x.stop(2, 4, 0);
-        x.stop(2, 5, 1);
-        x.missing(7);
-        laysOut("others are no neighbours", x, LARGEST_GAP, "1 2 4 5 3", 6 + 7 + 5 + 9 + 10 + 7);
+    }
+
+    private void gapNeighboursAreWalkedOnes() {
+        checks.under("LARGEST GAP: between neighbours (.. its stops ..): of those that are walked");
+        // With a neighbour at place 6 the gap behind the front would be the greatest, and stop 1 a back one.
+        PickPaths x = parted(1, 3, 9);
+        laysOut("two", x, LARGEST_GAP, "0 2 3 1", 1 + 14 + 14 + 8 + 7);
+        x.stop(1, 6, 0);
+        laysOut("one without pieces is no neighbour", x, LARGEST_GAP, "0 2 3 1", 1 + 14 + 14 + 8 + 7);
+        x.stop(1, 6, 1);
+        laysOut("one with pieces is", x, LARGEST_GAP, "0 2 5 1 3", 1 + 14 + 3 + 3 + 8 + 7);
+        x.missing(5);
+        laysOut("a missing one is not", x, LARGEST_GAP, "0 2 3 1", 1 + 14 + 14 + 8 + 7);
+        PickPaths y = gone(floor(3, 1, 1, 6, 1), LARGEST_GAP, 1);
+        y.stop(0, 0, 1);
+        y.stop(1, 3, 1);
+        y.stop(1, 9, 1);
+        y.stop(2, 0, 1);
+        laysOut("nor a done one", y, LARGEST_GAP, "1 3 4 2", 11 + 14 + 14 + 8 + 7);
     }
 
     private void gapOfASingleStop() {
@@ -361,7 +375,8 @@ public final class WalkEdgesTest extends Cases {
             test::throughTheNextOnes, test::throughCountsWalkedOnesAlone, test::aislesFirstToLast,
             test::placesFirstAndLast, test::equalPlacesUpward, test::equalPlacesDownward,
             test::thereAndBackUpward, test::gapOfOneAisleAlone, test::gapOfTwoAisles,
-            test::firstAndLastAisleAreNotParted, test::gapCountsWalkedOnesAlone, test::gapOfASingleStop,
+            test::firstAndLastAisleAreNotParted, test::gapCountsWalkedOnesAlone, test::gapNeighboursAreWalkedOnes,
+            test::gapOfASingleStop,
             test::gapOfDepths, test::equalGaps, test::gapOfOnePlace, test::gapOrder,
             test::nearestFromWhereOneIs, test::nearestOfEqualOnes, test::leastOfEqualOnes, test::leastFromHere,
             test::leastOfNoMoreThan8, test::leastCountsWalkedOnesAlone, test::theOtherKindsOfMoreThan8);
